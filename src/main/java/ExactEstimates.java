@@ -238,19 +238,15 @@ public final class ExactEstimates {
     private void lookBackTo(int t) {
         hindsight.setBlank();
         for (int later = now; later > t; later--) {
-            learnAgain(later);
+            for (int i = 0; i < seenCount; i++) {
+                if (seen[i].at == later) {
+                    hindsight.learn(seen[i]);
+                }
+            }
             Passage passed = passages[later - 1];
             hindsight.addNoise(passed);
             spare.moveBack(hindsight, passed);
             hindsight.copy(spare);
-        }
-    }
-
-    private void learnAgain(int at) {
-        for (int i = 0; i < seenCount; i++) {
-            if (seen[i].at == at) {
-                hindsight.learn(seen[i]);
-            }
         }
     }
 
