@@ -538,7 +538,8 @@ public final class ExactEstimates {
 
     /**
      * A whole number of a fixed room, in two's complement, so that sums and products need no look at signs.
-     * Five limbs are enough: a numerator or denominator has at most 105 bits, and compare adds at most 31.
+     * Five limbs are enough: a belief's numbers have at most 105 bits, an innovation at most ten more, and
+     * compare adds at most 32 to these.
      */
     private static final class Whole {
         static final int LIMBS = 5;
