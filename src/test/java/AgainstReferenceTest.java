@@ -4,11 +4,11 @@ import java.util.Random;
 /** Runs of chosen calls, each answered by the program and by the document written down word for word. */
 public final class AgainstReferenceTest {
     private static final int RUNS = 3000;
-    private static final int CALLS = 512;
+    private static final int SHORT_RUN = 60;
 
     private final Checks checks;
     private final Random random;
-    private final ExactEstimates x = new ExactEstimates();
+    private final Subject x = new Subject();
     private final Reference reference = new Reference();
     private final String run;
     /** 0: any numbers; 1: the largest that are taken; 2: small ones; 3: often wrong ones; 4: the edges alone. */
@@ -26,29 +26,30 @@ public final class AgainstReferenceTest {
         for (int seed = 0; seed < RUNS; seed++) {
             AgainstReferenceTest test = new AgainstReferenceTest(checks, seed);
             // Most runs stay short, so that there are many of them; some use all the calls of an object.
-            test.makeCalls(seed % 40 < 4 ? CALLS : 60);
+            test.makeCalls(seed % 40 < 4 ? Subject.MOST_CALLS : SHORT_RUN);
         }
         checks.end();
     }
 
     private void makeCalls(int calls) {
         for (int i = 0; i < calls; i++) {
-            switch (random.nextInt(i < 30 ? 24 : 60)) {
-                case 0 -> {
-                    // Seldom, so that most runs come to six observations and to time 3.
-                    if (random.nextInt(4) == 0) {
-                        begin();
-                    }
-                }
-                case 1, 2, 3 -> setStep();
-                case 4, 5, 6 -> setNoise();
-                case 7, 8, 9, 10, 11, 12, 13 -> look();
-                case 14, 15, 16 -> checks.due(run + "advance()", x.advance(), reference.advance());
-                case 17 -> checks.due(run + "time()", x.time(), reference.time());
-                case 18 -> checks.due(run + "observations()", x.observations(), reference.observations());
-                default -> ask();
-            }
+            Call call = pickCall(i < SHORT_RUN / 2 ? 24 : 60);
+            checks.due(run + call.text(), call.on(x), call.on(reference));
         }
+    }
+
+    private Call pickCall(int choices) {
+        return switch (random.nextInt(choices)) {
+            // Begins anew but seldom, so that most runs come to six observations and to time 3.
+            case 0 -> random.nextInt(4) == 0 ? begin() : ask();
+            case 1, 2, 3 -> Call.step(pick(-3, 3), pick(-3, 3), pick(-3, 3), pick(-3, 3));
+            case 4, 5, 6 -> blur();
+            case 7, 8, 9, 10, 11, 12, 13 -> Call.observe(pick(-9, 9), pick(-9, 9), pick(1, 99), pick(-999, 999));
+            case 14, 15, 16 -> Call.advance();
+            case 17 -> Call.time();
+            case 18 -> Call.observations();
+            default -> ask();
+        };
     }
 
     private int pick(int low, int high) {
@@ -81,64 +82,36 @@ public final class AgainstReferenceTest {
         return p;
     }
 
-    private void begin() {
+    private Call begin() {
         int[] p = covariance();
-        int m0 = pick(-99, 99);
-        int m1 = pick(-99, 99);
-        checks.due(run + "initial(" + m0 + ", " + m1 + ", " + p[0] + ", " + p[1] + ", " + p[2] + ")",
-                x.initial(m0, m1, p[0], p[1], p[2]), reference.initial(m0, m1, p[0], p[1], p[2]));
+        return Call.initial(pick(-99, 99), pick(-99, 99), p[0], p[1], p[2]);
     }
 
-    private void setStep() {
-        int a = pick(-3, 3);
-        int b = pick(-3, 3);
-        int c = pick(-3, 3);
-        int d = pick(-3, 3);
-        boolean want = reference.step(a, b, c, d);
-        checks.due(run + "step(" + a + ", " + b + ", " + c + ", " + d + ")", x.step(a, b, c, d) ? 1 : 0, want ? 1 : 0);
-    }
-
-    private void setNoise() {
+    private Call blur() {
         int[] q = covariance();
-        checks.due(run + "noise(" + q[0] + ", " + q[1] + ", " + q[2] + ")",
-                x.noise(q[0], q[1], q[2]), reference.noise(q[0], q[1], q[2]));
+        return Call.noise(q[0], q[1], q[2]);
     }
 
-    private void look() {
-        int h0 = pick(-9, 9);
-        int h1 = pick(-9, 9);
-        int r = pick(1, 99);
-        int z = pick(-999, 999);
-        checks.due(run + "observe(" + h0 + ", " + h1 + ", " + r + ", " + z + ")",
-                x.observe(h0, h1, r, z), reference.observe(h0, h1, r, z));
-    }
-
-    private void ask() {
+    private Call ask() {
         int kind = manner == 3 ? random.nextInt(6) - 1 : random.nextInt(4);
         int last = kind == 3 ? reference.observations() - 1 : reference.time();
         int t = manner == 3 ? random.nextInt(last + 4) - 1 : random.nextInt(Math.max(1, last + 1));
         int e = manner == 3 ? random.nextInt(8) - 1 : random.nextInt(kind == 3 ? 2 : 5);
-        String number = "(" + kind + ", " + t + ", " + e;
         boolean lower = random.nextBoolean();
-        switch (random.nextInt(4)) {
-            case 0 -> checks.due(run + "sign" + number + ")", x.sign(kind, t, e), reference.sign(kind, t, e));
-            case 1 -> checks.due(run + "bits" + number + ", " + lower + ")",
-                    x.bits(kind, t, e, lower), reference.bits(kind, t, e, lower));
-            case 2 -> {
-                int k = random.nextInt(5) == 0 ? pick(0, 31) : random.nextInt(4);
-                checks.due(run + "word" + number + ", " + lower + ", " + k + ")",
-                        x.word(kind, t, e, lower, k), reference.word(kind, t, e, lower, k));
-            }
+        return switch (random.nextInt(4)) {
+            case 0 -> Call.sign(kind, t, e);
+            case 1 -> Call.bits(kind, t, e, lower);
+            case 2 -> Call.word(kind, t, e, lower, random.nextInt(5) == 0 ? pick(0, 31) : random.nextInt(4));
             default -> askOrder(kind, t, e);
-        }
+        };
     }
 
     /** Compares with fractions next to the number, where a mistake would show first. */
-    private void askOrder(int kind, int t, int e) {
+    private Call askOrder(int kind, int t, int e) {
         int[] lowers = {1, 2, 7, 1 + random.nextInt(1000), Integer.MAX_VALUE, 0, -1, Integer.MIN_VALUE};
         int q = lowers[random.nextInt(manner == 3 ? lowers.length : 5)];
         int p = random.nextBoolean() ? Integer.MIN_VALUE : Integer.MAX_VALUE;
-        Reference.Fraction number = reference.number(kind, t, e);
+        Reference.Fraction number = reference.fraction(kind, t, e);
         if (number != null && random.nextInt(6) != 0) {
             if (number.d().bitLength() < 32 && random.nextBoolean()) {
                 q = number.d().intValue();
@@ -148,7 +121,6 @@ public final class AgainstReferenceTest {
                 p = near.intValue() + random.nextInt(3) - 1;
             }
         }
-        checks.due(run + "compare(" + kind + ", " + t + ", " + e + ", " + p + ", " + q + ")",
-                x.compare(kind, t, e, p, q), reference.compare(kind, t, e, p, q));
+        return Call.compare(kind, t, e, p, q);
     }
 }

@@ -6,7 +6,7 @@ import java.util.List;
  * The document written down word for word with fractions of any size. It shares no formula with the program:
  * the smoothed estimates are worked out by G = P F' N^(-1), each time anew.
  */
-final class Reference {
+final class Reference implements Estimates {
     static final int NONE = -2;
     static final int BAD = -3;
     static final int FLAT = -4;
@@ -123,7 +123,8 @@ final class Reference {
         return false;
     }
 
-    int initial(int m0, int m1, int p00, int p01, int p11) {
+    @Override
+    public int initial(int m0, int m1, int p00, int p01, int p11) {
         if (outside(-99, 99, m0, m1, p00, p01, p11)) {
             return BAD;
         }
@@ -134,7 +135,8 @@ final class Reference {
         return 0;
     }
 
-    boolean step(int f00, int f01, int f10, int f11) {
+    @Override
+    public boolean step(int f00, int f01, int f10, int f11) {
         if (outside(-3, 3, f00, f01, f10, f11)) {
             return false;
         }
@@ -142,7 +144,8 @@ final class Reference {
         return true;
     }
 
-    int noise(int q00, int q01, int q11) {
+    @Override
+    public int noise(int q00, int q01, int q11) {
         if (outside(-99, 99, q00, q01, q11)) {
             return BAD;
         }
@@ -153,7 +156,8 @@ final class Reference {
         return 0;
     }
 
-    int observe(int h0, int h1, int r, int z) {
+    @Override
+    public int observe(int h0, int h1, int r, int z) {
         if (outside(-9, 9, h0, h1) || outside(1, 99, r) || outside(-999, 999, z)) {
             return BAD;
         }
@@ -176,7 +180,8 @@ final class Reference {
         return seen.size() - 1;
     }
 
-    int advance() {
+    @Override
+    public int advance() {
         if (time() == 3) {
             return FULL;
         }
@@ -189,26 +194,31 @@ final class Reference {
         return time();
     }
 
-    int time() {
+    @Override
+    public int time() {
         return predicted.size() - 1;
     }
 
-    int observations() {
+    @Override
+    public int observations() {
         return seen.size();
     }
 
-    int sign(int kind, int t, int e) {
-        Fraction x = number(kind, t, e);
+    @Override
+    public int sign(int kind, int t, int e) {
+        Fraction x = fraction(kind, t, e);
         return x == null ? NONE : x.n().signum();
     }
 
-    int bits(int kind, int t, int e, boolean lower) {
-        Fraction x = number(kind, t, e);
+    @Override
+    public int bits(int kind, int t, int e, boolean lower) {
+        Fraction x = fraction(kind, t, e);
         return x == null ? NONE : part(x, lower).bitLength();
     }
 
-    long word(int kind, int t, int e, boolean lower, int k) {
-        Fraction x = number(kind, t, e);
+    @Override
+    public long word(int kind, int t, int e, boolean lower, int k) {
+        Fraction x = fraction(kind, t, e);
         if (x == null) {
             return NONE;
         }
@@ -218,8 +228,9 @@ final class Reference {
         return part(x, lower).shiftRight(32 * k).and(BigInteger.valueOf(0xFFFFFFFFL)).longValueExact();
     }
 
-    int compare(int kind, int t, int e, int p, int q) {
-        Fraction x = number(kind, t, e);
+    @Override
+    public int compare(int kind, int t, int e, int p, int q) {
+        Fraction x = fraction(kind, t, e);
         if (x == null) {
             return NONE;
         }
@@ -231,7 +242,7 @@ final class Reference {
     }
 
     /** The number, or null when there is none. */
-    Fraction number(int kind, int t, int e) {
+    Fraction fraction(int kind, int t, int e) {
         if (kind == 3) {
             return outside(0, seen.size() - 1, t) || outside(0, 1, e) ? null : seen.get(t)[e];
         }

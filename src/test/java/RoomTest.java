@@ -1,43 +1,49 @@
 import com.sun.management.ThreadMXBean;
 import java.lang.management.ManagementFactory;
 
-/** No call makes an object, and a new object is small: what all calls of a run make stays counted. */
+/** What the 512 calls of an object make, and the object itself, stays small: a run's room is counted. */
 public final class RoomTest {
-    private static final int ROUNDS = 2000;
+    private static final int CALLS = 512;
+    /**
+     * A run has room for 600,000 objects and 7.3 million fields and elements. An object takes 16 bytes or more
+     * and an element one or more, so fewer bytes than this keep to both.
+     */
+    private static final long ROOM = 7_300_000;
+
+    private final ExactEstimates x = new ExactEstimates();
+    private int calls;
+    private long sum;
 
     public static void main(String[] args) {
         ThreadMXBean threads = (ThreadMXBean) ManagementFactory.getThreadMXBean();
         long self = Thread.currentThread().getId();
-        ExactEstimates x = new ExactEstimates();
-        long sum = round(x);
         long before = threads.getThreadAllocatedBytes(self);
-        for (int i = 0; i < ROUNDS; i++) {
-            sum += round(x);
-        }
+        RoomTest run = new RoomTest();
+        run.makeCalls();
         long made = threads.getThreadAllocatedBytes(self) - before;
 
-        long beforeNew = threads.getThreadAllocatedBytes(self);
-        ExactEstimates another = new ExactEstimates();
-        long size = threads.getThreadAllocatedBytes(self) - beforeNew;
-
         Checks checks = new Checks();
-        // The measuring itself may make a little, but one object a round would already be 32,000 bytes.
-        checks.due("bytes made by " + ROUNDS + " rounds (" + made + ", sum " + sum + ") stay few", made < 16000 ? 1 : 0, 1);
-        checks.due("bytes of a new object (" + size + ", time " + another.time() + ")", size < 32000 ? 1 : 0, 1);
+        checks.due("bytes made (" + made + ", sum " + run.sum + ") stay in the room", made < ROOM ? 1 : 0, 1);
+        checks.due("calls made", run.calls, CALLS);
         checks.end();
     }
 
-    /** Every call of the face once or more. */
-    private static long round(ExactEstimates x) {
-        long sum = x.initial(5, -7, 9, 2, 8);
-        for (int t = 0; t <= 3; t++) {
-            sum += x.step(t, 1, -2, 3) ? 1 : 0;
-            sum += x.noise(9, -t, 7) + x.observe(t, 5, 3, 99) + x.observe(9, -t, 97, -998) + x.advance();
+    private void makeCalls() {
+        while (calls < CALLS) {
+            // Anew now and then, and otherwise full, where the calls that tell a number are the dearest.
+            count(calls % 64 == 0 ? x.initial(5, -7, 9, 2, 8) : x.advance());
+            count(x.observe(9, -8, 97, -998));
+            count(x.noise(9, -2, 7));
+            count(x.step(3, -2, 1, 3) ? 1 : 0);
+            count(x.sign(2, 0, 1));
+            count(x.bits(2, 0, 0, true));
+            count(x.word(2, 0, 1, false, 1));
+            count(x.compare(2, 0, 0, -7, 9));
         }
-        for (int kind = 0; kind <= 3; kind++) {
-            sum += x.sign(kind, 1, 1) + x.bits(kind, 1, 0, true) + x.word(kind, 0, 1, false, 1);
-            sum += x.compare(kind, 2, 0, -7, 9);
-        }
-        return sum + x.time() + x.observations();
+    }
+
+    private void count(long answer) {
+        calls++;
+        sum += answer;
     }
 }
