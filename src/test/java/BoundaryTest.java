@@ -10,50 +10,62 @@ public final class BoundaryTest {
     private static final Checks CHECKS = new Checks();
 
     public static void main(String[] args) {
-        newObject();
-        objectsApart();
-        initialEstimate();
-        initialAtTimeZero();
-        initialWithoutObservations();
-        stepAndNoiseStay();
-        initialBad();
-        initialFlat();
-        stepTaken();
-        stepFromNowOn();
-        stepRefused();
-        noiseTaken();
-        noiseFromNowOn();
-        noiseBad();
-        noiseFlat();
-        observeAnswers();
-        observeTaken();
-        observeBad();
-        observeFull();
-        advanceGrows();
-        advanceFull();
-        time();
-        observations();
-        sign();
-        signNone();
-        bits();
-        bitsOfZero();
-        bitsAtTheEndsOfWords();
-        bitsNone();
-        word();
-        wordWithoutSign();
-        noMoreWords();
-        wordNone();
-        wordBad();
-        compare();
-        compareWithTheLargest();
-        compareNextToLargeNumbers();
-        compareNone();
-        compareBad();
+        CHECKS.sentence("Promise 1: All as said for the first.", BoundaryTest::newObject);
+        CHECKS.sentence("Promise 1: .. whatever other objects have come to.", BoundaryTest::objectsApart);
+        CHECKS.sentence("Promise 2: Begins anew.", BoundaryTest::beginsAnew);
+        CHECKS.sentence("Promise 2: .. with this initial estimate .. Answers 0.", BoundaryTest::initialEstimate);
+        CHECKS.sentence("Promise 2: .. at time 0.", BoundaryTest::initialAtTimeZero);
+        CHECKS.sentence("Promise 2: .. without observations.", BoundaryTest::initialWithoutObservations);
+        CHECKS.sentence("Promise 2: .. step and noise stay.", BoundaryTest::stepAndNoiseStay);
+        CHECKS.sentence("Promise 2: BAD when one is not -99 .. 99.", BoundaryTest::initialBad);
+        CHECKS.sentence("Promise 2: FLAT.", BoundaryTest::initialFlat);
+        CHECKS.sentence("Promise 3: The step from now on (each of -3 .. 3 at each place).", BoundaryTest::stepTaken);
+        CHECKS.sentence("Promise 3: The step from now on (neither earlier nor for one advance alone).",
+                BoundaryTest::stepFromNowOn);
+        CHECKS.sentence("Promise 3: false, refused, when one is not -3 .. 3.", BoundaryTest::stepRefused);
+        CHECKS.sentence("Promise 4: The noise from now on; answers 0 (up to the edges).", BoundaryTest::noiseTaken);
+        CHECKS.sentence("Promise 4: The noise from now on (neither earlier nor for one advance alone).",
+                BoundaryTest::noiseFromNowOn);
+        CHECKS.sentence("Promise 4: BAD when one is not -99 .. 99.", BoundaryTest::noiseBad);
+        CHECKS.sentence("Promise 4: FLAT.", BoundaryTest::noiseFlat);
+        CHECKS.sentence("Promise 5: An observation; answers its number.", BoundaryTest::observeAnswers);
+        CHECKS.sentence("Promise 5: .. of h0 and h1 -9 .. 9, r 1 .. 99, z -999 .. 999, up to the edges.",
+                BoundaryTest::observeTaken);
+        CHECKS.sentence("Promise 5: BAD when h0 or h1 is not -9 .. 9, r not 1 .. 99, or z not -999 .. 999.",
+                BoundaryTest::observeBad);
+        CHECKS.sentence("Promise 5: FULL when there are 6.", BoundaryTest::observeFull);
+        CHECKS.sentence("Promise 6: The time grows by 1; answers it.", BoundaryTest::advanceGrows);
+        CHECKS.sentence("Promise 6: FULL when it is 3.", BoundaryTest::advanceFull);
+        CHECKS.sentence("Promise 7: The time.", BoundaryTest::time);
+        CHECKS.sentence("Promise 8: How many observations there are.", BoundaryTest::observations);
+        CHECKS.sentence("Promise 9: -1, 0 or 1, as a number is less than, equal to, or greater than 0.",
+                BoundaryTest::sign);
+        CHECKS.sentence("Promise 9: NONE.", BoundaryTest::signNone);
+        CHECKS.sentence("Promise 10: How many bits the numerator of a number (its denominator when lower) has.",
+                BoundaryTest::bits);
+        CHECKS.sentence("Promise 10: .. without zeros in front; 0 for 0.", BoundaryTest::bitsOfZero);
+        CHECKS.sentence("Promise 10: .. (at the ends of words: 31, 32, 33, 63, 64, 65, 95, 96, 97 bits).",
+                BoundaryTest::bitsAtTheEndsOfWords);
+        CHECKS.sentence("Promise 10: NONE.", BoundaryTest::bitsNone);
+        CHECKS.sentence("Promise 11: The bits 32 * k .. 32 * k + 31 of the numerator of a number"
+                + " (of its denominator when lower).",
+                BoundaryTest::word);
+        CHECKS.sentence("Promise 11: .. as 0 .. 2^32 - 1.", BoundaryTest::wordWithoutSign);
+        CHECKS.sentence("Promise 11: .. 0 where there are no more.", BoundaryTest::noMoreWords);
+        CHECKS.sentence("Promise 11: NONE.", BoundaryTest::wordNone);
+        CHECKS.sentence("Promise 11: BAD when k is not 0 .. 31.", BoundaryTest::wordBad);
+        CHECKS.sentence("Promise 12: -1, 0 or 1, as a number is less than, equal to, or greater than p / q.",
+                BoundaryTest::compare);
+        CHECKS.sentence("Promise 12: .. for every p, and every q that is 1 or greater.",
+                BoundaryTest::compareWithTheLargest);
+        CHECKS.sentence("Promise 12: .. (also next to the largest numbers, with the largest q).",
+                BoundaryTest::compareNextToLargeNumbers);
+        CHECKS.sentence("Promise 12: NONE.", BoundaryTest::compareNone);
+        CHECKS.sentence("Promise 12: BAD when q is not 1 or greater.", BoundaryTest::compareBad);
         CHECKS.end();
     }
 
     private static void newObject() {
-        CHECKS.sentence("Promise 1: All as said for the first.");
         Subject x = new Subject();
         CHECKS.due(x, Call.time(), 0);
         CHECKS.due(x, Call.observations(), 0);
@@ -69,7 +81,6 @@ public final class BoundaryTest {
     }
 
     private static void objectsApart() {
-        CHECKS.sentence("Promise 1: .. whatever other objects have come to.");
         Subject other = new Subject();
         Runs.example(other);
         Subject x = new Subject();
@@ -86,8 +97,27 @@ public final class BoundaryTest {
         CHECKS.dueEstimate("the other", other, 0, 2, "429/29 153/29 225/29 77/29 52/29");
     }
 
+    /** Whatever was done before, and however far it went, a run that begins anew tells what it tells alone. */
+    private static void beginsAnew() {
+        List<List<Call>> runs = Runs.large();
+        for (int i = 0; i < runs.size(); i++) {
+            List<Call> earlier = runs.get(i);
+            List<Call> run = runs.get((i + 1) % runs.size());
+            Reference alone = new Reference();
+            Runs.make(alone, run);
+            for (int length = 1; length <= earlier.size(); length++) {
+                Subject x = Runs.made(earlier.subList(0, length));
+                Runs.make(x, run);
+                for (int[] n : Runs.allNumbers()) {
+                    CHECKS.due(x, Call.sign(n[0], n[1], n[2]), alone.sign(n[0], n[1], n[2]));
+                    CHECKS.due(x, Call.word(n[0], n[1], n[2], false, 0), alone.word(n[0], n[1], n[2], false, 0));
+                    CHECKS.due(x, Call.word(n[0], n[1], n[2], true, 0), alone.word(n[0], n[1], n[2], true, 0));
+                }
+            }
+        }
+    }
+
     private static void initialEstimate() {
-        CHECKS.sentence("Promise 2: Begins anew with this initial estimate .. Answers 0.");
         int[][] taken = {{-99, -99, 99, -98, 99}, {99, 99, 99, 98, 99}, {-99, 99, 1, 0, 1}, {99, -99, 1, 0, 99},
             {0, 0, 99, 0, 1}, {-98, 98, 98, 97, 98}, {1, -1, 2, -1, 1}};
         for (int[] n : taken) {
@@ -108,7 +138,6 @@ public final class BoundaryTest {
     }
 
     private static void initialAtTimeZero() {
-        CHECKS.sentence("Promise 2: .. at time 0.");
         for (int from = 0; from <= 3; from++) {
             Subject x = new Subject();
             for (int t = 0; t < from; t++) {
@@ -126,7 +155,6 @@ public final class BoundaryTest {
     }
 
     private static void initialWithoutObservations() {
-        CHECKS.sentence("Promise 2: .. without observations.");
         for (int from = 0; from <= 6; from++) {
             Subject x = new Subject();
             for (int i = 0; i < from; i++) {
@@ -148,7 +176,6 @@ public final class BoundaryTest {
     }
 
     private static void stepAndNoiseStay() {
-        CHECKS.sentence("Promise 2: .. step and noise stay.");
         Subject x = new Subject();
         x.step(1, 2, 3, -1);
         x.noise(5, -2, 7);
@@ -165,7 +192,6 @@ public final class BoundaryTest {
     }
 
     private static void initialBad() {
-        CHECKS.sentence("Promise 2: BAD when one is not -99 .. 99.");
         Subject x = new Subject();
         for (int w : new int[] {-100, 100}) {
             dueInitialBad(x, w);
@@ -191,7 +217,6 @@ public final class BoundaryTest {
     }
 
     private static void initialFlat() {
-        CHECKS.sentence("Promise 2: FLAT.");
         Subject x = new Subject();
         int[][] flat = {{0, 0, 0}, {0, 0, 1}, {1, 0, 0}, {1, 1, 1}, {1, -1, 1}, {4, 6, 9}, {-1, 0, -1}, {-1, 0, 1},
             {1, 0, -1}, {98, 98, 98}, {99, -99, 98}, {-99, 98, -99}};
@@ -204,7 +229,6 @@ public final class BoundaryTest {
     }
 
     private static void stepTaken() {
-        CHECKS.sentence("Promise 3: The step from now on (each of -3 .. 3 at each place).");
         for (int f = 0; f < 7 * 7 * 7 * 7; f++) {
             int f00 = f % 7 - 3;
             int f01 = f / 7 % 7 - 3;
@@ -221,7 +245,6 @@ public final class BoundaryTest {
     }
 
     private static void stepFromNowOn() {
-        CHECKS.sentence("Promise 3: The step from now on (neither earlier nor for one advance alone).");
         Subject x = new Subject();
         x.initial(5, 7, 1, 0, 1);
         x.advance();
@@ -236,7 +259,6 @@ public final class BoundaryTest {
     }
 
     private static void stepRefused() {
-        CHECKS.sentence("Promise 3: false, refused, when one is not -3 .. 3.");
         Subject x = new Subject();
         for (int w : new int[] {-4, 4}) {
             dueStepRefused(x, w);
@@ -259,8 +281,8 @@ public final class BoundaryTest {
     }
 
     private static void noiseTaken() {
-        CHECKS.sentence("Promise 4: The noise from now on; answers 0 (up to the edges).");
-        int[][] taken = {{1, 0, 1}, {99, 0, 99}, {99, 98, 99}, {99, -98, 99}, {99, 0, 1}, {1, 0, 99}, {2, 1, 1}, {1, -1, 2}};
+        int[][] taken = {{1, 0, 1}, {99, 0, 99}, {99, 98, 99}, {99, -98, 99}, {99, 0, 1}, {1, 0, 99}, {2, 1, 1},
+            {1, -1, 2}};
         for (int[] q : taken) {
             Subject x = new Subject();
             x.step(0, 0, 0, 0);
@@ -271,7 +293,6 @@ public final class BoundaryTest {
     }
 
     private static void noiseFromNowOn() {
-        CHECKS.sentence("Promise 4: The noise from now on (neither earlier nor for one advance alone).");
         Subject x = new Subject();
         x.initial(5, 7, 1, 0, 1);
         x.advance();
@@ -285,7 +306,6 @@ public final class BoundaryTest {
     }
 
     private static void noiseBad() {
-        CHECKS.sentence("Promise 4: BAD when one is not -99 .. 99.");
         Subject x = new Subject();
         for (int w : new int[] {-100, 100}) {
             dueNoiseBad(x, w);
@@ -308,7 +328,6 @@ public final class BoundaryTest {
     }
 
     private static void noiseFlat() {
-        CHECKS.sentence("Promise 4: FLAT.");
         Subject x = new Subject();
         CHECKS.due(x, Call.noise(98, 97, 97), 0);
         int[][] flat = {{0, 0, 0}, {0, 0, 1}, {1, 0, 0}, {1, 1, 1}, {1, -1, 1}, {4, 6, 9}, {-1, 0, -1}, {-2, 1, -2},
@@ -321,7 +340,6 @@ public final class BoundaryTest {
     }
 
     private static void observeAnswers() {
-        CHECKS.sentence("Promise 5: An observation; answers its number.");
         for (int[] made : Runs.waysToMakeSix()) {
             Subject x = new Subject();
             int number = 0;
@@ -337,7 +355,6 @@ public final class BoundaryTest {
     }
 
     private static void observeTaken() {
-        CHECKS.sentence("Promise 5: .. of h0 and h1 -9 .. 9, r 1 .. 99, z -999 .. 999, up to the edges.");
         for (int h0 = -9; h0 <= 9; h0++) {
             for (int h1 = -9; h1 <= 9; h1++) {
                 Subject x = new Subject();
@@ -361,7 +378,6 @@ public final class BoundaryTest {
     }
 
     private static void observeBad() {
-        CHECKS.sentence("Promise 5: BAD when h0 or h1 is not -9 .. 9, r not 1 .. 99, or z not -999 .. 999.");
         Subject x = new Subject();
         for (int w : new int[] {-10, 10, LEAST, LARGEST, 257, -255}) {
             CHECKS.due(x, Call.observe(w, 0, 1, 0), -3);
@@ -379,7 +395,6 @@ public final class BoundaryTest {
     }
 
     private static void observeFull() {
-        CHECKS.sentence("Promise 5: FULL when there are 6.");
         for (int time = 0; time <= 3; time++) {
             Subject x = new Subject();
             for (int t = 0; t < time; t++) {
@@ -401,7 +416,6 @@ public final class BoundaryTest {
     }
 
     private static void advanceGrows() {
-        CHECKS.sentence("Promise 6: The time grows by 1; answers it.");
         for (int[] made : Runs.waysToMakeSix()) {
             Subject x = new Subject();
             for (int t = 1; t <= 3; t++) {
@@ -415,7 +429,6 @@ public final class BoundaryTest {
     }
 
     private static void advanceFull() {
-        CHECKS.sentence("Promise 6: FULL when it is 3.");
         Subject x = new Subject();
         x.advance();
         x.advance();
@@ -433,7 +446,6 @@ public final class BoundaryTest {
     }
 
     private static void time() {
-        CHECKS.sentence("Promise 7: The time.");
         Subject x = new Subject();
         for (int t = 0; t <= 3; t++) {
             CHECKS.due(x, Call.time(), t);
@@ -450,7 +462,6 @@ public final class BoundaryTest {
     }
 
     private static void observations() {
-        CHECKS.sentence("Promise 8: How many observations there are.");
         Subject x = new Subject();
         for (int i = 0; i < 6; i++) {
             CHECKS.due(x, Call.observations(), i);
@@ -468,7 +479,6 @@ public final class BoundaryTest {
     }
 
     private static void sign() {
-        CHECKS.sentence("Promise 9: -1, 0 or 1, as a number is less than, equal to, or greater than 0.");
         for (int m = -99; m <= 99; m++) {
             Subject x = new Subject();
             x.initial(m, 0, 1, 0, 1);
@@ -504,7 +514,6 @@ public final class BoundaryTest {
     }
 
     private static void signNone() {
-        CHECKS.sentence("Promise 9: NONE.");
         Subject x = new Subject();
         Runs.example(x);
         for (int[] n : nextToNumbers()) {
@@ -513,7 +522,6 @@ public final class BoundaryTest {
     }
 
     private static void bits() {
-        CHECKS.sentence("Promise 10: How many bits the numerator of a number (its denominator when lower) has.");
         for (int m = -99; m <= 99; m++) {
             Subject x = new Subject();
             x.initial(m, 1, 1, 0, 1);
@@ -531,7 +539,6 @@ public final class BoundaryTest {
     }
 
     private static void bitsOfZero() {
-        CHECKS.sentence("Promise 10: .. without zeros in front; 0 for 0.");
         Subject x = new Subject();
         CHECKS.due(x, Call.bits(0, 0, 0, false), 0);
         CHECKS.due(x, Call.bits(0, 0, 0, true), 1);
@@ -547,7 +554,6 @@ public final class BoundaryTest {
     }
 
     private static void bitsAtTheEndsOfWords() {
-        CHECKS.sentence("Promise 10: .. (at the ends of words: 31, 32, 33, 63, 64, 65, 95, 96, 97 bits).");
         Set<Integer> uppers = new TreeSet<>();
         Set<Integer> lowers = new TreeSet<>();
         for (List<Call> run : Runs.large()) {
@@ -568,7 +574,6 @@ public final class BoundaryTest {
     }
 
     private static void bitsNone() {
-        CHECKS.sentence("Promise 10: NONE.");
         Subject x = new Subject();
         Runs.example(x);
         for (int[] n : nextToNumbers()) {
@@ -578,8 +583,6 @@ public final class BoundaryTest {
     }
 
     private static void word() {
-        CHECKS.sentence("Promise 11: The bits 32 * k .. 32 * k + 31 of the numerator of a number"
-                + " (of its denominator when lower).");
         for (List<Call> run : Runs.large()) {
             Reference reference = new Reference();
             Runs.make(reference, run);
@@ -593,7 +596,6 @@ public final class BoundaryTest {
     }
 
     private static void wordWithoutSign() {
-        CHECKS.sentence("Promise 11: .. as 0 .. 2^32 - 1.");
         int high = 0;
         for (List<Call> run : Runs.large()) {
             Subject x = null;
@@ -615,7 +617,6 @@ public final class BoundaryTest {
     }
 
     private static void noMoreWords() {
-        CHECKS.sentence("Promise 11: .. 0 where there are no more.");
         Subject x = new Subject();
         x.initial(-99, 0, 3, 1, 2);
         for (int k = 0; k <= 31; k++) {
@@ -641,7 +642,6 @@ public final class BoundaryTest {
     }
 
     private static void wordNone() {
-        CHECKS.sentence("Promise 11: NONE.");
         Subject x = new Subject();
         Runs.example(x);
         for (int[] n : nextToNumbers()) {
@@ -651,7 +651,6 @@ public final class BoundaryTest {
     }
 
     private static void wordBad() {
-        CHECKS.sentence("Promise 11: BAD when k is not 0 .. 31.");
         Subject x = new Subject();
         Runs.example(x);
         int[][] numbers = {{0, 0, 0}, {1, 0, 1}, {2, 0, 2}, {2, 1, 4}, {3, 1, 0}, {3, 0, 1}};
@@ -669,7 +668,6 @@ public final class BoundaryTest {
     }
 
     private static void compare() {
-        CHECKS.sentence("Promise 12: -1, 0 or 1, as a number is less than, equal to, or greater than p / q.");
         Subject x = new Subject();
         Runs.example(x);
         for (int times = 1; times <= 20; times++) {
@@ -694,7 +692,6 @@ public final class BoundaryTest {
     }
 
     private static void compareWithTheLargest() {
-        CHECKS.sentence("Promise 12: .. for every p, and every q that is 1 or greater.");
         Subject x = new Subject();
         Runs.example(x);
         CHECKS.due(x, Call.compare(1, 0, 0, LARGEST, 1), -1);
@@ -717,7 +714,6 @@ public final class BoundaryTest {
     }
 
     private static void compareNextToLargeNumbers() {
-        CHECKS.sentence("Promise 12: .. (also next to the largest numbers, with the largest q).");
         for (List<Call> run : Runs.large()) {
             Reference reference = new Reference();
             Runs.make(reference, run);
@@ -741,7 +737,6 @@ public final class BoundaryTest {
     }
 
     private static void compareNone() {
-        CHECKS.sentence("Promise 12: NONE.");
         Subject x = new Subject();
         Runs.example(x);
         for (int[] n : nextToNumbers()) {
@@ -751,7 +746,6 @@ public final class BoundaryTest {
     }
 
     private static void compareBad() {
-        CHECKS.sentence("Promise 12: BAD when q is not 1 or greater.");
         Subject x = new Subject();
         Runs.example(x);
         int[][] numbers = {{0, 0, 0}, {1, 0, 1}, {2, 0, 2}, {2, 1, 4}, {3, 1, 0}, {3, 0, 1}};

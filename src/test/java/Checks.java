@@ -1,16 +1,24 @@
 /** Counts the answers that are not the ones that are due, for the tests of this project. */
 final class Checks {
-    private static final int MOST_SHOWN = 20;
-    private String sentence = "";
+    private static final int MOST_SHOWN = 10;
     private int made;
     private int wrong;
-    private int madeBefore;
-    private int wrongBefore;
+    private int shown;
 
-    /** What is looked at from here on belongs to this sentence of the document. */
-    void sentence(String text) {
-        endSentence();
-        sentence = text;
+    /** The test of one sentence of the document; what it throws breaks the sentence too. */
+    void sentence(String text, Runnable test) {
+        int madeBefore = made;
+        int wrongBefore = wrong;
+        shown = 0;
+        try {
+            test.run();
+        } catch (RuntimeException thrown) {
+            due(text, thrown.toString(), "nothing thrown");
+        }
+        if (made == madeBefore) {
+            due(text, "no answer looked at", "some");
+        }
+        System.out.println((wrong == wrongBefore ? "holds: " : "BROKEN: ") + text);
     }
 
     void due(String call, long got, long want) {
@@ -37,26 +45,15 @@ final class Checks {
         made++;
         if (!right) {
             wrong++;
-            if (wrong <= MOST_SHOWN) {
+            if (shown < MOST_SHOWN) {
+                shown++;
                 System.out.println(call + " answered " + got + ", due is " + want);
             }
         }
     }
 
-    private void endSentence() {
-        if (!sentence.isEmpty()) {
-            if (made == madeBefore) {
-                wrong++;
-            }
-            System.out.println((wrong == wrongBefore ? "holds: " : "BROKEN: ") + sentence);
-        }
-        madeBefore = made;
-        wrongBefore = wrong;
-    }
-
     /** Ends the program, with exit code 1 if an answer was wrong or none was looked at. */
     void end() {
-        endSentence();
         System.out.println(made + " answers looked at, " + wrong + " not as due");
         System.exit(wrong == 0 && made > 0 ? 0 : 1);
     }

@@ -28,7 +28,8 @@ public final class RefusalTest {
     private static final List<List<Call>> AFTERWARDS = List.of(
             List.of(),
             List.of(Call.observe(2, -3, 5, 70), Call.advance(), Call.observe(1, 4, 3, -20)),
-            List.of(Call.initial(2, 3, 5, 1, 4), Call.observe(2, -3, 5, 70), Call.advance(), Call.observe(1, 4, 3, -20)));
+            List.of(Call.initial(2, 3, 5, 1, 4), Call.observe(2, -3, 5, 70), Call.advance(),
+                    Call.observe(1, 4, 3, -20)));
 
     public static void main(String[] args) {
         changesNothing("initial", initialRefused());
@@ -36,14 +37,20 @@ public final class RefusalTest {
         changesNothing("noise", noiseRefused());
         changesNothing("observe", observeRefused());
         changesNothing("advance", List.of(new Refused(Call.advance(), FULL, 3, 0)));
-        for (String name : new String[] {"sign", "bits", "word", "compare"}) {
-            changesNothing(name, askRefused(name));
-        }
-        firstOfInitial();
-        firstOfNoise();
-        firstOfObserve();
-        firstOfWord();
-        firstOfCompare();
+        changesNothing("sign", askRefused("sign"));
+        changesNothing("bits", askRefused("bits"));
+        changesNothing("word", askRefused("word"));
+        changesNothing("compare", askRefused("compare"));
+        CHECKS.sentence("Terms: The refusal named first is the answer: initial, BAD before FLAT.",
+                RefusalTest::firstOfInitial);
+        CHECKS.sentence("Terms: The refusal named first is the answer: noise, BAD before FLAT.",
+                RefusalTest::firstOfNoise);
+        CHECKS.sentence("Terms: The refusal named first is the answer: observe, BAD before FULL.",
+                RefusalTest::firstOfObserve);
+        CHECKS.sentence("Terms: The refusal named first is the answer: word, NONE before BAD.",
+                RefusalTest::firstOfWord);
+        CHECKS.sentence("Terms: The refusal named first is the answer: compare, NONE before BAD.",
+                RefusalTest::firstOfCompare);
         CHECKS.end();
     }
 
@@ -76,7 +83,10 @@ public final class RefusalTest {
     }
 
     private static void changesNothing(String name, List<Refused> refusals) {
-        CHECKS.sentence("Terms: A call that is refused changes nothing: " + name + ".");
+        CHECKS.sentence("Terms: A call that is refused changes nothing: " + name + ".", () -> dueUnchanged(refusals));
+    }
+
+    private static void dueUnchanged(List<Refused> refusals) {
         for (State state : STATES) {
             for (List<Call> afterwards : AFTERWARDS) {
                 String untouched = look(Runs.made(state.calls), afterwards);
@@ -214,7 +224,6 @@ public final class RefusalTest {
     }
 
     private static void firstOfInitial() {
-        CHECKS.sentence("Terms: The refusal named first is the answer: initial, BAD before FLAT.");
         for (int w : outside(-99, 99)) {
             dueInEveryState(Call.initial(w, 0, 1, 1, 1), BAD);
             dueInEveryState(Call.initial(0, w, 0, 0, 0), BAD);
@@ -226,7 +235,6 @@ public final class RefusalTest {
     }
 
     private static void firstOfNoise() {
-        CHECKS.sentence("Terms: The refusal named first is the answer: noise, BAD before FLAT.");
         for (int w : outside(-99, 99)) {
             dueInEveryState(Call.noise(w, 0, 0), BAD);
             dueInEveryState(Call.noise(1, w, 1), BAD);
@@ -236,7 +244,6 @@ public final class RefusalTest {
     }
 
     private static void firstOfObserve() {
-        CHECKS.sentence("Terms: The refusal named first is the answer: observe, BAD before FULL.");
         for (State state : STATES) {
             if (state.count < 6) {
                 continue;
@@ -258,7 +265,6 @@ public final class RefusalTest {
     }
 
     private static void firstOfWord() {
-        CHECKS.sentence("Terms: The refusal named first is the answer: word, NONE before BAD.");
         for (int k : outside(0, 31)) {
             dueInEveryState(Call.word(-1, 0, 0, false, k), NONE);
             dueInEveryState(Call.word(4, 0, 0, true, k), NONE);
@@ -272,7 +278,6 @@ public final class RefusalTest {
     }
 
     private static void firstOfCompare() {
-        CHECKS.sentence("Terms: The refusal named first is the answer: compare, NONE before BAD.");
         for (int q : new int[] {0, -1, -7, Integer.MIN_VALUE}) {
             dueInEveryState(Call.compare(-1, 0, 0, 1, q), NONE);
             dueInEveryState(Call.compare(4, 0, 0, 1, q), NONE);

@@ -9,43 +9,61 @@ public final class TermsTest {
     private static final Checks CHECKS = new Checks();
 
     public static void main(String[] args) {
-        callsOfAnObject();
-        times();
-        atFirstNoObservations();
-        mostObservations();
-        numbersOfObservations();
-        timesOfObservations();
-        positive();
-        firstStep();
-        firstNoise();
-        predictedOfTimeZero();
-        filteredWithoutObservations();
-        oneAfterTheOther();
-        innovation();
-        spread();
-        lookAtNothing();
-        stepOfTheAdvance();
-        noiseOfTheAdvance();
-        predictedOfTheNextTime();
-        smoothedOfTheLatest();
-        smoothedOfEarlierTimes();
-        smoothedWithoutLaterObservations();
-        smoothedThroughStepsWithoutInverse();
-        lowestTerms();
-        denominatorGreaterThanZero();
-        numeratorWithoutSign();
-        zero();
-        kinds();
-        timesOfNumbers();
-        entriesOfEstimates();
-        numbersThatAreAsked();
-        entriesOfObservations();
-        constants();
+        CHECKS.sentence("What it is: An object is used for at most 512 calls after it has been made.",
+                TermsTest::callsOfAnObject);
+        CHECKS.sentence("Terms: TIMES are 0, 1, 2, 3; at first the time is 0.", TermsTest::times);
+        CHECKS.sentence("Terms: At first there are no OBSERVATIONS.", TermsTest::atFirstNoObservations);
+        CHECKS.sentence("Terms: There are at most 6 observations.", TermsTest::mostObservations);
+        CHECKS.sentence("Terms: Observations are numbered 0, 1, .. in the order in which they are made.",
+                TermsTest::numbersOfObservations);
+        CHECKS.sentence("Terms: Each observation belongs to the time at which it was made.",
+                TermsTest::timesOfObservations);
+        CHECKS.sentence("Terms: A covariance is POSITIVE when p00 is greater than 0"
+                + " and p00 * p11 is greater than p01 * p01.",
+                TermsTest::positive);
+        CHECKS.sentence("Terms: The STEP is at first 1, 0, 0, 1.", TermsTest::firstStep);
+        CHECKS.sentence("Terms: The NOISE is at first 1, 0, 1.", TermsTest::firstNoise);
+        CHECKS.sentence("Terms: The PREDICTED estimate of time 0 is the INITIAL one, at first 0, 0 and 1, 0, 1.",
+                TermsTest::predictedOfTimeZero);
+        CHECKS.sentence("Terms: The FILTERED estimate of a time is its predicted one (where nothing is seen).",
+                TermsTest::filteredWithoutObservations);
+        CHECKS.sentence("Terms: .. changed by each observation of that time, one after the other.",
+                TermsTest::oneAfterTheOther);
+        CHECKS.sentence("Terms: Its INNOVATION is y = z - h0 * m0 - h1 * m1.", TermsTest::innovation);
+        CHECKS.sentence("Terms: Its SPREAD is s = h0 * h0 * p00 + 2 * h0 * h1 * p01 + h1 * h1 * p11 + r.",
+                TermsTest::spread);
+        CHECKS.sentence("Terms: m0 becomes m0 + k0 * y .. (nothing becomes other where h0 and h1 are 0).",
+                TermsTest::lookAtNothing);
+        CHECKS.sentence("Terms: .. with F the step as it was at the advance from t to t + 1.",
+                TermsTest::stepOfTheAdvance);
+        CHECKS.sentence("Terms: .. and Q the noise as it was at the advance from t to t + 1.",
+                TermsTest::noiseOfTheAdvance);
+        CHECKS.sentence("Terms: The mean is F m, and the covariance F P F' + Q.", TermsTest::predictedOfTheNextTime);
+        CHECKS.sentence("Terms: The SMOOTHED estimate of the latest time is its filtered one.",
+                TermsTest::smoothedOfTheLatest);
+        CHECKS.sentence("Terms: The SMOOTHED estimate of an earlier time t is m + G (x - n), P + G (X - N) G'.",
+                TermsTest::smoothedOfEarlierTimes);
+        CHECKS.sentence("Terms: .. where nothing is seen later, the smoothed estimate of an earlier time"
+                + " is its filtered one, for x is n and X is N.",
+                TermsTest::smoothedWithoutLaterObservations);
+        CHECKS.sentence("Terms: .. and G = P F' N^(-1), also for an F without an inverse.",
+                TermsTest::smoothedThroughStepsWithoutInverse);
+        CHECKS.sentence("Terms: FRACTIONS are told in lowest terms.", TermsTest::lowestTerms);
+        CHECKS.sentence("Terms: The DENOMINATOR is greater than 0.", TermsTest::denominatorGreaterThanZero);
+        CHECKS.sentence("Terms: .. the NUMERATOR without its sign.", TermsTest::numeratorWithoutSign);
+        CHECKS.sentence("Terms: 0 has numerator 0 and denominator 1.", TermsTest::zero);
+        CHECKS.sentence("Terms: KINDS of numbers: 0 predicted, 1 filtered, 2 smoothed, and kind 3.", TermsTest::kinds);
+        CHECKS.sentence("Terms: .. each of a time t from 0 to the time now.", TermsTest::timesOfNumbers);
+        CHECKS.sentence("Terms: .. with the ENTRIES e 0 .. 4: m0, m1, p00, p01, p11.", TermsTest::entriesOfEstimates);
+        CHECKS.sentence("Terms: .. and kind 3, where t is the number of an observation.",
+                TermsTest::numbersThatAreAsked);
+        CHECKS.sentence("Terms: .. with the entries 0, its innovation, and 1, its spread.",
+                TermsTest::entriesOfObservations);
+        CHECKS.sentence("Terms: The constants: NONE = -2, BAD = -3, FLAT = -4, FULL = -5.", TermsTest::constants);
         CHECKS.end();
     }
 
     private static void callsOfAnObject() {
-        CHECKS.sentence("What it is: An object is used for at most 512 calls after it has been made.");
         Call[] last = {Call.initial(0, 0, 1, 0, 1), Call.initial(0, 0, 1, 1, 1), Call.step(3, 3, 3, 3),
             Call.step(4, 3, 3, 3), Call.noise(1, 0, 1), Call.noise(100, 0, 1), Call.observe(1, 1, 1, 1),
             Call.observe(1, 1, 0, 1), Call.advance(), Call.time(), Call.observations(), Call.sign(1, 0, 1),
@@ -78,7 +96,6 @@ public final class TermsTest {
     }
 
     private static void times() {
-        CHECKS.sentence("Terms: TIMES are 0, 1, 2, 3; at first the time is 0.");
         Subject x = new Subject();
         CHECKS.due(x, Call.time(), 0);
         for (int t = 1; t <= LAST_TIME; t++) {
@@ -92,7 +109,6 @@ public final class TermsTest {
     }
 
     private static void atFirstNoObservations() {
-        CHECKS.sentence("Terms: At first there are no OBSERVATIONS.");
         Subject x = new Subject();
         CHECKS.due(x, Call.observations(), 0);
         CHECKS.dueObservation("at first", x, 0, "none none");
@@ -100,7 +116,6 @@ public final class TermsTest {
     }
 
     private static void mostObservations() {
-        CHECKS.sentence("Terms: There are at most 6 observations.");
         for (int[] made : Runs.waysToMakeSix()) {
             Subject x = new Subject();
             makeSix(x, made);
@@ -129,7 +144,6 @@ public final class TermsTest {
     }
 
     private static void numbersOfObservations() {
-        CHECKS.sentence("Terms: Observations are numbered 0, 1, .. in the order in which they are made.");
         for (int[] made : Runs.waysToMakeSix()) {
             Subject x = new Subject();
             makeSix(x, made);
@@ -140,7 +154,6 @@ public final class TermsTest {
     }
 
     private static void timesOfObservations() {
-        CHECKS.sentence("Terms: Each observation belongs to the time at which it was made.");
         String[] want = {"4/1 0/1 1/2 0/1 1/1", "16/3 0/1 2/3 0/1 2/1", "6/1 0/1 3/4 0/1 3/1", "32/5 0/1 4/5 0/1 4/1"};
         for (int own = 0; own <= LAST_TIME; own++) {
             Subject x = new Subject();
@@ -162,11 +175,9 @@ public final class TermsTest {
     }
 
     private static void positive() {
-        CHECKS.sentence("Terms: A covariance is POSITIVE when p00 is greater than 0"
-                + " and p00 * p11 is greater than p01 * p01.");
-        int[][] flat = {{0, 0, 0}, {0, 0, 1}, {0, 0, 99}, {0, 1, 99}, {-1, 0, -1}, {-2, 1, -1}, {-99, 0, -99}, {-1, 0, 1},
-            {1, 0, -1}, {1, 0, 0}, {1, 1, 1}, {1, -1, 1}, {4, 6, 9}, {9, -6, 4}, {99, 99, 99}, {99, -99, 99}, {98, 99, 99},
-            {9, 30, 99}, {1, 10, 99}, {-99, 98, -99}};
+        int[][] flat = {{0, 0, 0}, {0, 0, 1}, {0, 0, 99}, {0, 1, 99}, {-1, 0, -1}, {-2, 1, -1}, {-99, 0, -99},
+            {-1, 0, 1}, {1, 0, -1}, {1, 0, 0}, {1, 1, 1}, {1, -1, 1}, {4, 6, 9}, {9, -6, 4}, {99, 99, 99},
+            {99, -99, 99}, {98, 99, 99}, {9, 30, 99}, {1, 10, 99}, {-99, 98, -99}};
         int[][] positive = {{1, 0, 1}, {2, 1, 1}, {1, -1, 2}, {5, 3, 2}, {2, -3, 5}, {82, 9, 1}, {1, -9, 82},
             {99, 98, 98}, {99, -98, 99}, {99, 0, 1}, {1, 0, 99}, {99, 98, 99}, {65, -8, 1}};
         Subject x = new Subject();
@@ -199,7 +210,6 @@ public final class TermsTest {
     }
 
     private static void firstStep() {
-        CHECKS.sentence("Terms: The STEP is at first 1, 0, 0, 1.");
         Subject x = new Subject();
         x.initial(5, 7, 20, 10, 30);
         x.advance();
@@ -207,7 +217,6 @@ public final class TermsTest {
     }
 
     private static void firstNoise() {
-        CHECKS.sentence("Terms: The NOISE is at first 1, 0, 1.");
         Subject x = new Subject();
         x.step(0, 0, 0, 0);
         x.advance();
@@ -215,7 +224,6 @@ public final class TermsTest {
     }
 
     private static void predictedOfTimeZero() {
-        CHECKS.sentence("Terms: The PREDICTED estimate of time 0 is the INITIAL one, at first 0, 0 and 1, 0, 1.");
         Subject x = new Subject();
         CHECKS.dueEstimate("at first", x, 0, 0, "0/1 0/1 1/1 0/1 1/1");
         x.observe(9, 9, 1, 999);
@@ -230,7 +238,6 @@ public final class TermsTest {
     }
 
     private static void filteredWithoutObservations() {
-        CHECKS.sentence("Terms: The FILTERED estimate of a time is its predicted one (where nothing is seen).");
         Subject x = new Subject();
         x.initial(-5, 7, 4, -3, 5);
         x.step(1, 1, 0, 1);
@@ -244,7 +251,6 @@ public final class TermsTest {
     }
 
     private static void oneAfterTheOther() {
-        CHECKS.sentence("Terms: .. changed by each observation of that time, one after the other.");
         Subject x = new Subject();
         x.observe(1, 0, 1, 4);
         CHECKS.dueEstimate("after one", x, 1, 0, "2/1 0/1 1/2 0/1 1/1");
@@ -258,7 +264,6 @@ public final class TermsTest {
     }
 
     private static void innovation() {
-        CHECKS.sentence("Terms: Its INNOVATION is y = z - h0 * m0 - h1 * m1.");
         dueInnovation(99, -99, Call.observe(-9, 9, 1, 999), "2781/1");
         dueInnovation(-99, 99, Call.observe(-9, 9, 1, -999), "-2781/1");
         dueInnovation(99, 99, Call.observe(9, 9, 1, 999), "-783/1");
@@ -277,7 +282,6 @@ public final class TermsTest {
     }
 
     private static void spread() {
-        CHECKS.sentence("Terms: Its SPREAD is s = h0 * h0 * p00 + 2 * h0 * h1 * p01 + h1 * h1 * p11 + r.");
         dueSpread(99, 98, 99, Call.observe(9, 9, 99, 0), "32013/1");
         dueSpread(99, 98, 99, Call.observe(-9, -9, 99, 999), "32013/1");
         dueSpread(99, 98, 99, Call.observe(9, -9, 1, 0), "163/1");
@@ -295,7 +299,6 @@ public final class TermsTest {
     }
 
     private static void lookAtNothing() {
-        CHECKS.sentence("Terms: m0 becomes m0 + k0 * y .. (nothing becomes other where h0 and h1 are 0).");
         for (int z = -999; z <= 999; z += 333) {
             for (int r = 1; r <= 99; r += 49) {
                 Subject x = new Subject();
@@ -308,7 +311,6 @@ public final class TermsTest {
     }
 
     private static void stepOfTheAdvance() {
-        CHECKS.sentence("Terms: .. with F the step as it was at the advance from t to t + 1.");
         Subject x = new Subject();
         x.initial(5, 7, 1, 0, 1);
         x.step(-3, 1, 1, -3);
@@ -326,7 +328,6 @@ public final class TermsTest {
     }
 
     private static void noiseOfTheAdvance() {
-        CHECKS.sentence("Terms: .. and Q the noise as it was at the advance from t to t + 1.");
         Subject x = new Subject();
         x.noise(99, 98, 99);
         x.noise(3, 0, 3);
@@ -343,7 +344,6 @@ public final class TermsTest {
     }
 
     private static void predictedOfTheNextTime() {
-        CHECKS.sentence("Terms: The mean is F m, and the covariance F P F' + Q.");
         duePredicted(Call.initial(99, 99, 99, 98, 99), Call.step(3, 3, 3, 3), Call.noise(99, 98, 99),
                 "594/1 594/1 3645/1 3644/1 3645/1");
         duePredicted(Call.initial(99, 99, 99, 98, 99), Call.step(-3, -3, 3, 3), Call.noise(99, 98, 99),
@@ -368,7 +368,6 @@ public final class TermsTest {
     }
 
     private static void smoothedOfTheLatest() {
-        CHECKS.sentence("Terms: The SMOOTHED estimate of the latest time is its filtered one.");
         Subject x = new Subject();
         x.initial(1, -2, 4, 1, 3);
         CHECKS.dueEstimate("unseen", x, 2, 0, "1/1 -2/1 4/1 1/1 3/1");
@@ -389,7 +388,6 @@ public final class TermsTest {
     }
 
     private static void smoothedOfEarlierTimes() {
-        CHECKS.sentence("Terms: The SMOOTHED estimate of an earlier time t is m + G (x - n), P + G (X - N) G'.");
         Subject x = new Subject();
         x.advance();
         x.advance();
@@ -405,8 +403,6 @@ public final class TermsTest {
     }
 
     private static void smoothedWithoutLaterObservations() {
-        CHECKS.sentence("Terms: .. where nothing is seen later, the smoothed estimate of an earlier time"
-                + " is its filtered one, for x is n and X is N.");
         Subject x = new Subject();
         x.initial(1, -2, 4, 1, 3);
         x.observe(1, 0, 2, 5);
@@ -420,7 +416,6 @@ public final class TermsTest {
     }
 
     private static void smoothedThroughStepsWithoutInverse() {
-        CHECKS.sentence("Terms: .. and G = P F' N^(-1), also for an F without an inverse.");
         Subject x = new Subject();
         x.step(1, 1, 1, 1);
         x.advance();
@@ -435,7 +430,6 @@ public final class TermsTest {
     }
 
     private static void lowestTerms() {
-        CHECKS.sentence("Terms: FRACTIONS are told in lowest terms.");
         Subject halves = new Subject();
         halves.observe(2, 0, 4, 6);
         CHECKS.dueEstimate("a 2 goes out", halves, 1, 0, "3/2 0/1 1/2 0/1 1/1");
@@ -494,7 +488,6 @@ public final class TermsTest {
     }
 
     private static void denominatorGreaterThanZero() {
-        CHECKS.sentence("Terms: The DENOMINATOR is greater than 0.");
         Subject x = new Subject();
         Runs.example(x);
         CHECKS.due(x, Call.word(1, 0, 1, true, 0), 3);
@@ -512,7 +505,6 @@ public final class TermsTest {
     }
 
     private static void numeratorWithoutSign() {
-        CHECKS.sentence("Terms: .. the NUMERATOR without its sign.");
         Subject x = new Subject();
         Runs.example(x);
         CHECKS.due(x, Call.sign(1, 0, 1), -1);
@@ -528,7 +520,6 @@ public final class TermsTest {
     }
 
     private static void zero() {
-        CHECKS.sentence("Terms: 0 has numerator 0 and denominator 1.");
         Subject x = new Subject();
         x.initial(-1, 0, 3, 0, 5);
         dueZero(x, 0, 0, 1);
@@ -565,7 +556,6 @@ public final class TermsTest {
     }
 
     private static void kinds() {
-        CHECKS.sentence("Terms: KINDS of numbers: 0 predicted, 1 filtered, 2 smoothed, and kind 3.");
         Subject x = new Subject();
         Runs.example(x);
         for (int kind = -3; kind <= 9; kind++) {
@@ -581,7 +571,6 @@ public final class TermsTest {
     }
 
     private static void timesOfNumbers() {
-        CHECKS.sentence("Terms: .. each of a time t from 0 to the time now.");
         for (int now = 0; now <= LAST_TIME; now++) {
             for (int kind = 0; kind <= 2; kind++) {
                 Subject x = new Subject();
@@ -602,7 +591,6 @@ public final class TermsTest {
     }
 
     private static void entriesOfEstimates() {
-        CHECKS.sentence("Terms: .. with the ENTRIES e 0 .. 4: m0, m1, p00, p01, p11.");
         for (int kind = 0; kind <= 2; kind++) {
             for (int t = 0; t <= 1; t++) {
                 Subject x = new Subject();
@@ -625,7 +613,6 @@ public final class TermsTest {
     }
 
     private static void numbersThatAreAsked() {
-        CHECKS.sentence("Terms: .. and kind 3, where t is the number of an observation.");
         for (int count = 0; count <= MOST_OBSERVATIONS; count++) {
             for (int e = 0; e <= 1; e++) {
                 Subject x = new Subject();
@@ -652,7 +639,6 @@ public final class TermsTest {
     }
 
     private static void entriesOfObservations() {
-        CHECKS.sentence("Terms: .. with the entries 0, its innovation, and 1, its spread.");
         Subject x = new Subject();
         Runs.example(x);
         for (int t = 0; t <= 1; t++) {
@@ -668,7 +654,6 @@ public final class TermsTest {
     }
 
     private static void constants() {
-        CHECKS.sentence("Terms: The constants: NONE = -2, BAD = -3, FLAT = -4, FULL = -5.");
         List<Integer> constants = new ArrayList<>();
         constants.add(ExactEstimates.NONE);
         constants.add(ExactEstimates.BAD);
