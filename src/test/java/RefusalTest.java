@@ -1,5 +1,6 @@
 import java.util.ArrayList;
 import java.util.List;
+import java.util.function.Function;
 
 /**
  * 'A call that is refused changes nothing; where several refusals that a call names fit, the one named first is
@@ -12,11 +13,8 @@ public final class RefusalTest {
     private static final int FULL = -5;
     private static final Checks CHECKS = new Checks();
 
-    /** A call with the refusal that is due, in states that have come to a time and to a count of observations. */
-    private record Refused(Call call, int answer, int fromTime, int fromCount) {
-        boolean fits(State state) {
-            return state.time >= fromTime && state.count >= fromCount;
-        }
+    /** A call with the refusal that is due. */
+    private record Refused(Call call, int answer) {
     }
 
     /** The calls that lead to a state from a new object, and the time and observations that it has come to. */
@@ -32,15 +30,15 @@ public final class RefusalTest {
                     Call.observe(1, 4, 3, -20)));
 
     public static void main(String[] args) {
-        changesNothing("initial", initialRefused());
-        changesNothing("step", stepRefused());
-        changesNothing("noise", noiseRefused());
-        changesNothing("observe", observeRefused());
-        changesNothing("advance", List.of(new Refused(Call.advance(), FULL, 3, 0)));
-        changesNothing("sign", askRefused("sign"));
-        changesNothing("bits", askRefused("bits"));
-        changesNothing("word", askRefused("word"));
-        changesNothing("compare", askRefused("compare"));
+        changesNothing("initial", state -> initialRefused());
+        changesNothing("step", state -> stepRefused());
+        changesNothing("noise", state -> noiseRefused());
+        changesNothing("observe", RefusalTest::observeRefused);
+        changesNothing("advance", RefusalTest::advanceRefused);
+        changesNothing("sign", state -> askRefused("sign", state));
+        changesNothing("bits", state -> askRefused("bits", state));
+        changesNothing("word", state -> askRefused("word", state));
+        changesNothing("compare", state -> askRefused("compare", state));
         CHECKS.sentence("Terms: The refusal named first is the answer: initial, BAD before FLAT.",
                 RefusalTest::firstOfInitial);
         CHECKS.sentence("Terms: The refusal named first is the answer: noise, BAD before FLAT.",
@@ -82,22 +80,22 @@ public final class RefusalTest {
         return all;
     }
 
-    private static void changesNothing(String name, List<Refused> refusals) {
-        CHECKS.sentence("Terms: A call that is refused changes nothing: " + name + ".", () -> dueUnchanged(refusals));
+    private static void changesNothing(String name, Function<State, List<Refused>> refusals) {
+        CHECKS.sentence("Terms: A call that is refused changes nothing: " + name + ".", () -> {
+            for (State state : STATES) {
+                dueUnchanged(state, refusals.apply(state));
+            }
+        });
     }
 
-    private static void dueUnchanged(List<Refused> refusals) {
-        for (State state : STATES) {
-            for (List<Call> afterwards : AFTERWARDS) {
-                String untouched = look(Runs.made(state.calls), afterwards);
-                for (Refused refused : refusals) {
-                    if (refused.fits(state)) {
-                        Subject x = Runs.made(state.calls);
-                        CHECKS.due(x, refused.call, refused.answer);
-                        String text = state.name + ", after refused " + refused.call.text();
-                        CHECKS.due(text, look(x, afterwards), untouched);
-                    }
-                }
+    private static void dueUnchanged(State state, List<Refused> refusals) {
+        for (List<Call> afterwards : AFTERWARDS) {
+            String untouched = look(Runs.made(state.calls), afterwards);
+            for (Refused refused : refusals) {
+                Subject x = Runs.made(state.calls);
+                CHECKS.due(x, refused.call, refused.answer);
+                String text = state.name + ", after refused " + refused.call.text();
+                CHECKS.due(text, look(x, afterwards), untouched);
             }
         }
     }
@@ -117,7 +115,7 @@ public final class RefusalTest {
     }
 
     private static void add(List<Refused> all, Call call, int answer) {
-        all.add(new Refused(call, answer, 0, 0));
+        all.add(new Refused(call, answer));
     }
 
     /** The ints next outside a range, and far ones. */
@@ -170,7 +168,7 @@ public final class RefusalTest {
         return all;
     }
 
-    private static List<Refused> observeRefused() {
+    private static List<Refused> observeRefused(State state) {
         List<Refused> all = new ArrayList<>();
         for (int w : outside(-9, 9)) {
             add(all, Call.observe(w, 1, 2, 30), BAD);
@@ -182,16 +180,24 @@ public final class RefusalTest {
         for (int w : outside(-999, 999)) {
             add(all, Call.observe(1, 1, 2, w), BAD);
         }
-        all.add(new Refused(Call.observe(1, 1, 2, 30), FULL, 0, 6));
-        all.add(new Refused(Call.observe(0, 0, 99, -999), FULL, 0, 6));
+        if (state.count == 6) {
+            add(all, Call.observe(1, 1, 2, 30), FULL);
+            add(all, Call.observe(0, 0, 99, -999), FULL);
+        }
         return all;
     }
 
-    /** Numbers that no state has, and words and fractions of a number that all states have. */
-    private static List<Refused> askRefused(String name) {
+    private static List<Refused> advanceRefused(State state) {
+        return state.time == 3 ? List.of(new Refused(Call.advance(), FULL)) : List.of();
+    }
+
+    /** Numbers next to those of the state, and wrong words and fractions of a number that all states have. */
+    private static List<Refused> askRefused(String name, State state) {
         List<Refused> all = new ArrayList<>();
-        int[][] none = {{-1, 0, 0}, {4, 0, 0}, {0, -1, 0}, {1, 4, 0}, {2, -1, 4}, {2, 4, 0}, {0, 0, -1}, {1, 0, 5},
-            {2, 0, 5}, {3, -1, 0}, {3, 6, 1}, {3, 0, 2}, {3, 5, -1}, {Integer.MAX_VALUE, Integer.MIN_VALUE, 9}};
+        int later = state.time + 1;
+        int[][] none = {{-1, 0, 0}, {4, 0, 0}, {0, -1, 0}, {0, later, 0}, {1, later, 1}, {1, 4, 0}, {2, -1, 4},
+            {2, later, 2}, {2, 4, 0}, {0, 0, -1}, {1, 0, 5}, {2, 0, 5}, {3, -1, 0}, {3, state.count, 0},
+            {3, state.count, 1}, {3, 6, 1}, {3, 0, 2}, {3, 5, -1}, {Integer.MAX_VALUE, Integer.MIN_VALUE, 9}};
         for (int[] n : none) {
             add(all, ask(name, n[0], n[1], n[2], 0, 1), NONE);
         }
